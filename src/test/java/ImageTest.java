@@ -1,0 +1,132 @@
+/** Promises 35 and 36: images of all that is told. */
+final class ImageTest {
+    private static final Checks CHECKS = new Checks();
+
+    public static void main(String[] args) {
+        imagesKeepAll();
+        imagesAreApart();
+        tapeAndFault();
+        runsGoOnFromImages();
+        askedWrongly();
+        CHECKS.finish("ImageTest");
+    }
+
+    private static PavementWalk full() {
+        PavementWalk walk = Checks.running("size 9 3;wall 4 0;walker 0 1 east;walker 8 1 west;"
+            + "late 0 1;", "if ahead<2:lot;go;", 77);
+        walk.hat(0, 0, 1);
+        walk.hat(3, 5, 5);
+        return walk;
+    }
+
+    private static void imagesKeepAll() {
+        PavementWalk walk = full();
+        walk.go(4);
+        CHECKS.due("image", walk.image(1), true);
+        int x = walk.ran(0, 0);
+        int y = walk.ran(0, 1);
+        int lots = walk.state(6);
+        walk.go(10);
+        Checks.tell(walk, "size 2 1;");
+        walk.passage(0);
+        Checks.tell(walk, "wait;");
+        walk.law(0);
+        Checks.law(walk, "go;");
+        walk.dark();
+        walk.run(0, 0, 3);
+        CHECKS.due("again", walk.again(1), true);
+        CHECKS.due("TENTH", walk.state(0), 4);
+        CHECKS.due("lots", walk.state(6), lots);
+        CHECKS.due("x", walk.ran(0, 0), x);
+        CHECKS.due("y", walk.ran(0, 1), y);
+        CHECKS.due("WALL in the RUN", walk.on(4, 0), 100);
+        CHECKS.due("LENGTH", walk.about(0, 0), 9);
+        CHECKS.due("RULES", walk.rules(0), 2);
+        CHECKS.due("LAWS", walk.count(1), 1);
+        CHECKS.due("HATS", walk.count(2), 1);
+        CHECKS.due("a HAT's place", walk.hat(3, 1, 1), 1);
+        CHECKS.due("again, once more", walk.again(1), true);
+        CHECKS.due("HATS of FRAME 3", walk.count(5), 1);
+    }
+
+    private static void imagesAreApart() {
+        PavementWalk walk = full();
+        walk.image(0);
+        walk.go(3);
+        walk.image(2);
+        walk.go(3);
+        CHECKS.due("again(0)", walk.again(0), true);
+        CHECKS.due("TENTH of 0", walk.state(0), 0);
+        CHECKS.due("again(2)", walk.again(2), true);
+        CHECKS.due("TENTH of 2", walk.state(0), 3);
+        CHECKS.due("again(1)", walk.again(1), false);
+        CHECKS.due("nothing else", walk.state(0), 3);
+        walk.image(0);
+        walk.go(1);
+        walk.again(0);
+        CHECKS.due("0 made anew", walk.state(0), 3);
+        PavementWalk bare = new PavementWalk();
+        bare.image(0);
+        Checks.passage(bare, "size 2 1;");
+        Checks.law(bare, "go;");
+        bare.run(0, 0, 1);
+        CHECKS.due("again", bare.again(0), true);
+        CHECKS.due("no PASSAGES", bare.count(0), 0);
+        CHECKS.due("no LAWS", bare.count(1), 0);
+        CHECKS.due("no RUN", bare.go(1), -1);
+    }
+
+    private static void tapeAndFault() {
+        PavementWalk walk = new PavementWalk();
+        Checks.passage(walk, "size 1 1;");
+        Checks.tell(walk, "size 7 2;");
+        walk.image(0);
+        CHECKS.due("passage", walk.passage(-1), 0);
+        CHECKS.due("no FAULT", walk.fault(0), 0);
+        CHECKS.due("again", walk.again(0), true);
+        CHECKS.due("FAULT", walk.fault(0), 2);
+        CHECKS.due("place", walk.fault(1), 5);
+        CHECKS.due("the tape", walk.end(9), 9);
+        CHECKS.due("its end", walk.end(10), -1);
+        CHECKS.due("its text", walk.passage(-1), 0);
+        CHECKS.due("LENGTH", walk.about(0, 0), 7);
+    }
+
+    private static void runsGoOnFromImages() {
+        PavementWalk walk = full();
+        walk.go(4);
+        walk.image(0);
+        walk.go(6);
+        int[] due = new int[14];
+        for (int k = 0; k < 7; k++) {
+            due[k] = walk.ran(0, k);
+            due[7 + k] = walk.ran(1, k);
+        }
+        int lots = walk.state(6);
+        int steps = walk.door(3, 2);
+        int longest = walk.door(3, 1);
+        for (int times = 0; times < 2; times++) {
+            walk.again(0);
+            walk.go(6);
+            for (int k = 0; k < 7; k++) {
+                CHECKS.due("ran 0 " + k, walk.ran(0, k), due[k]);
+                CHECKS.due("ran 1 " + k, walk.ran(1, k), due[7 + k]);
+            }
+            CHECKS.due("lots", walk.state(6), lots);
+            CHECKS.due("steps", walk.door(3, 2), steps);
+            CHECKS.due("longest", walk.door(3, 1), longest);
+        }
+    }
+
+    private static void askedWrongly() {
+        PavementWalk walk = full();
+        CHECKS.due("image(-1)", walk.image(-1), false);
+        CHECKS.due("image(3)", walk.image(3), false);
+        CHECKS.due("again(-1)", walk.again(-1), false);
+        CHECKS.due("again(3)", walk.again(3), false);
+        CHECKS.due("again(0)", walk.again(0), false);
+        CHECKS.due("image(0)", walk.image(0), true);
+        CHECKS.due("again(0)", walk.again(0), true);
+        CHECKS.due("again(2)", walk.again(2), false);
+    }
+}
