@@ -280,13 +280,9 @@ public final class PavementWalk {
         if (!isTime(n, LONG_TIME) || !prepare(passage, law)) {
             return NONE;
         }
-        Passage whole = told.passageOf(passage);
-        if (whole == null) {
-            return NONE;
-        }
-        for (int k = 1; k <= whole.walkers; k++) {
-            ground.copyFrom(whole);
-            ground.keepFirst(k);
+        int all = ground.walkers;
+        for (int k = 1; k <= all; k++) {
+            ground.keepFirst(k, all);
             if (arrivals(seed, n) < k) {
                 return k;
             }
@@ -750,21 +746,17 @@ public final class PavementWalk {
             }
         }
 
+        /** Leaves the friend whom a WALKER had without one. */
         private void unfriend(int w) {
             int other = friend[w];
             if (has(other)) {
                 friend[other] = NONE;
             }
-            friend[w] = NONE;
         }
 
-        void keepFirst(int k) {
-            walkers = Math.max(0, Math.min(k, walkers));
-            for (int w = 0; w < walkers; w++) {
-                if (!has(friend[w])) {
-                    friend[w] = NONE;
-                }
-            }
+        /** Leaves the first k of all that are told; the others can come back, and are no one's friends. */
+        void keepFirst(int k, int all) {
+            walkers = Math.max(0, Math.min(k, Math.min(all, WALKERS)));
         }
 
         /** Takes a WALKER away; those behind him move up, so that their order stays. */

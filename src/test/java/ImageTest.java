@@ -7,6 +7,8 @@ final class ImageTest {
         imagesAreApart();
         tapeAndFault();
         runsGoOnFromImages();
+        runsKeepWhatTheyCounted();
+        filmsKeepTheirPlaces();
         askedWrongly();
         CHECKS.finish("ImageTest");
     }
@@ -116,6 +118,57 @@ final class ImageTest {
             CHECKS.due("steps", walk.door(3, 2), steps);
             CHECKS.due("longest", walk.door(3, 1), longest);
         }
+    }
+
+    private static void runsKeepWhatTheyCounted() {
+        PavementWalk walk = Checks.running("size 16 3;walker 1 0 west;walker 13 1 east;wall 9 2;"
+            + "walker 8 2 east;walker 2 2 east;pace 3 4;late 3 3;haste 3 2;walker 5 2 west;", "go;", 1);
+        walk.go(5);
+        int[] due = new int[35];
+        for (int k = 0; k < 35; k++) {
+            due[k] = walk.ran(k / 7, k % 7);
+        }
+        int[] finds = new int[10];
+        for (int k = 0; k < 10; k++) {
+            finds[k] = walk.finds(3, k);
+        }
+        CHECKS.due("image", walk.image(2), true);
+        walk.go(20);
+        Checks.passage(walk, "size 2 1;walker 0 0 east;");
+        walk.run(1, 0, 8);
+        CHECKS.due("again", walk.again(2), true);
+        for (int k = 0; k < 35; k++) {
+            CHECKS.due("ran " + k / 7 + " " + k % 7, walk.ran(k / 7, k % 7), due[k]);
+        }
+        for (int k = 0; k < 10; k++) {
+            CHECKS.due("finds " + k, walk.finds(3, k), finds[k]);
+        }
+        CHECKS.due("0 ARRIVED in", walk.ran(0, 2), 1);
+        CHECKS.due("2 bumps", walk.ran(2, 5), 5);
+        CHECKS.due("waited", walk.ran(2, 6), 5);
+        CHECKS.due("door 14", walk.door(14, 2), 1);
+        CHECKS.due("STANDS not", walk.state(2), 0);
+    }
+
+    private static void filmsKeepTheirPlaces() {
+        PavementWalk walk = new PavementWalk();
+        walk.hat(6, 90, 3);
+        walk.hat(6, 3, 90);
+        walk.hat(7, 2, 91);
+        walk.hat(7, 70, 3);
+        walk.hat(7, 91, 2);
+        walk.image(0);
+        walk.dark();
+        walk.hat(6, 0, 0);
+        walk.hat(7, 0, 0);
+        walk.hat(7, 0, 0);
+        walk.hat(7, 0, 0);
+        walk.hat(6, 0, 0);
+        CHECKS.due("worth of another FILM", walk.worth(6, 50), 50);
+        CHECKS.due("again", walk.again(0), true);
+        CHECKS.due("worth", walk.worth(6, 50), 2 + 2 + 50);
+        CHECKS.due("0", walk.match(6, 50, 0), 2);
+        CHECKS.due("1", walk.match(6, 50, 1), 0);
     }
 
     private static void askedWrongly() {

@@ -458,6 +458,29 @@ final class Model {
         }
     }
 
+    /** A LAW without 'not' from its text. */
+    static Law law(String text) {
+        Law law = new Law();
+        law.text = text;
+        for (String told : text.split(";")) {
+            Rule rule = new Rule();
+            String[] parts = told.split(":");
+            for (String one : parts.length > 1 ? parts[0].substring(3).split(" and ") : new String[0]) {
+                Test test = new Test();
+                String[] sides = one.split("[<>=]");
+                test.what = List.of(FINDS).indexOf(sides[0]);
+                if (sides.length > 1) {
+                    test.sign = one.charAt(sides[0].length());
+                    test.number = Integer.parseInt(sides[1]);
+                }
+                rule.tests.add(test);
+            }
+            rule.deed = List.of(DEEDS).indexOf(parts[parts.length - 1]);
+            law.rules.add(rule);
+        }
+        return law;
+    }
+
     static Law randomLaw(Random random) {
         Law law = new Law();
         StringBuilder text = new StringBuilder();

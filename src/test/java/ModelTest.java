@@ -18,7 +18,14 @@ final class ModelTest {
             trials(name, place, law, random);
         }
         for (int k = 0; k < 300; k++) {
-            twoByAllLots(random);
+            Model.Place place = Model.randomPlace(random, 2);
+            while (place.walkers.size() != 2) {
+                place = Model.randomPlace(random, 2);
+            }
+            twoByAllLots(place, Model.randomLaw(random), random.nextInt(5));
+        }
+        for (int k = 0; k < 60; k++) {
+            danceByAllLots(random, k < 4 ? 8 : 5 + random.nextInt(2));
         }
         CHECKS.finish("ModelTest");
     }
@@ -222,13 +229,30 @@ final class ModelTest {
         CHECKS.due(by + "fits", walk.fits(0, 0, seed), due);
     }
 
-    private static void twoByAllLots(Random random) {
-        Model.Place place = Model.randomPlace(random, 2);
-        while (place.walkers.size() != 2) {
-            place = Model.randomPlace(random, 2);
+    /** Two face to face with many lots, which meet in the same SQUARES by many ways. */
+    private static void danceByAllLots(Random random, int n) {
+        Model.Place place = new Model.Place();
+        place.length = 4 + random.nextInt(4);
+        place.width = 2 + random.nextInt(3);
+        place.wall = new boolean[place.length][place.width];
+        StringBuilder text = new StringBuilder("size " + place.length + " " + place.width + ";");
+        for (int w = 0; w < 2; w++) {
+            Model.Walker walker = new Model.Walker();
+            walker.x = w == 0 ? random.nextInt(2) : place.length - 1 - random.nextInt(2);
+            walker.y = random.nextInt(2);
+            walker.way = w == 0 ? 1 : -1;
+            walker.late = random.nextInt(4) * random.nextInt(2);
+            place.walkers.add(walker);
+            text.append("walker " + walker.x + " " + walker.y + (w == 0 ? " east;" : " west;"));
+            text.append("late " + w + " " + walker.late + ";");
         }
-        Model.Law law = Model.randomLaw(random);
-        int n = random.nextInt(5);
+        place.text = text.toString();
+        String[] laws = {"lot", "if facing:lot;go", "if waited=2:go;if waited=0:lot;hand", "if near<3:lot;go",
+            "if facing and waited<3:lot;go", "if waited>0:go;lot", "if near<2:go;if waited<2:hand;wait"};
+        twoByAllLots(place, Model.law(laws[random.nextInt(laws.length)] + ";"), n);
+    }
+
+    private static void twoByAllLots(Model.Place place, Model.Law law, int n) {
         long[] due = new long[10];
         for (int script = 0; script < 1 << 2 * n; script++) {
             int[] rest = {script};

@@ -5,6 +5,8 @@ final class RunTest {
     public static void main(String[] args) {
         runsBegin();
         runsGoOnWhenToldAnew();
+        runsBeginAnew();
+        longLaws();
         straightOn();
         paceAndWait();
         sidesAndBumps();
@@ -64,6 +66,81 @@ final class RunTest {
         CHECKS.due("he goes on", walk.go(1), 1);
         ran(walk, 0, 2, 0);
         CHECKS.due("the old length", walk.door(2, 2), 0);
+    }
+
+    /** Nothing of a RUN is left when another one begins. */
+    private static void runsBeginAnew() {
+        PavementWalk walk = Checks.running("size 6 2;walker 1 0 east;walker 3 0 west;late 0 3;",
+            "if waited=3:go;if ahead=1:lot;go;", 3);
+        walk.go(27);
+        int[] first = answers(walk);
+        walk.run(0, 0, 3);
+        CHECKS.due("ahead, as at first", walk.finds(0, 0), 1);
+        walk.go(27);
+        int[] second = answers(walk);
+        for (int k = 0; k < first.length; k++) {
+            CHECKS.due("the second RUN, answer " + k, second[k], first[k]);
+        }
+        PavementWalk danced = Checks.running("size 6 2;walker 1 0 east;walker 3 0 west;",
+            "if right>0:right;left;", 1);
+        danced.go(3);
+        CHECKS.due("DANCES", danced.state(3), 3);
+        danced.run(0, 0, 1);
+        CHECKS.due("no DANCES yet", danced.state(3), 0);
+        PavementWalk stood = Checks.running("size 6 2;walker 1 0 east;", "if waited<20:wait;go;", 1);
+        stood.go(22);
+        CHECKS.due("a step", stood.door(1, 2), 1);
+        stood.run(0, 0, 1);
+        CHECKS.due("no step yet", stood.door(1, 2), 0);
+        CHECKS.due("no turn yet", stood.door(1, 0), 0);
+        stood.go(15);
+        CHECKS.due("STANDS", stood.state(2), 1);
+        stood.run(0, 0, 1);
+        CHECKS.due("stands no more", stood.state(2), 0);
+    }
+
+    private static int[] answers(PavementWalk walk) {
+        int[] answers = new int[36];
+        for (int k = 0; k < 7; k++) {
+            answers[k] = walk.state(k);
+            answers[7 + k] = walk.ran(0, k);
+            answers[14 + k] = walk.ran(1, k);
+        }
+        for (int k = 0; k < 15; k++) {
+            answers[21 + k] = walk.door(k / 3, k % 3);
+        }
+        return answers;
+    }
+
+    private static void longLaws() {
+        // Only the last of 16 RULES of four TESTS each holds, by its last TESTS.
+        String rest = "if not waited>0 and near>3 and haste=0 and ";
+        StringBuilder law = new StringBuilder();
+        for (int k = 0; k < 6; k++) {
+            law.append(rest).append("crowd>0:left;");
+        }
+        law.append("wait;");
+        PavementWalk walk = Checks.told("size 9 3;walker 0 1 east;walker 5 1 west;", law.toString());
+        walk.run(0, 0, 1);
+        CHECKS.due("the 7th RULE", walk.does(0), 5);
+        StringBuilder sixteen = new StringBuilder();
+        for (int k = 0; k < 15; k++) {
+            sixteen.append("if blocked:left;");
+        }
+        sixteen.append("if ahead>3 and ahead<5 and not parted and not near<5:right;");
+        Checks.law(walk, sixteen.toString());
+        CHECKS.due("RULES", walk.rules(1), 16);
+        walk.run(0, 1, 1);
+        CHECKS.due("the 16th RULE", walk.does(0), 1);
+        walk.image(0);
+        Checks.tell(walk, "wait;");
+        walk.law(1);
+        walk.run(0, 1, 1);
+        CHECKS.due("another LAW", walk.does(0), 5);
+        walk.again(0);
+        CHECKS.due("the 16th RULE again", walk.does(0), 1);
+        walk.run(0, 1, 1);
+        CHECKS.due("the 16th RULE in a new RUN", walk.does(0), 1);
     }
 
     private static void straightOn() {

@@ -7,6 +7,7 @@ final class TextTest {
         passagesHaveNumbers();
         lawsHaveNumbers();
         tapeIsTaken();
+        textsBeginAnew();
         walkersAreTold();
         laterLinesStrike();
         friendsPart();
@@ -136,6 +137,34 @@ final class TextTest {
         CHECKS.due("place", walk.fault(1), -1);
         CHECKS.due("fault(2)", walk.fault(2), -1);
         CHECKS.due("fault(-1)", walk.fault(-1), -1);
+    }
+
+    /** Nothing of a text is left when another one is told. */
+    private static void textsBeginAnew() {
+        PavementWalk walk = new PavementWalk();
+        Checks.passage(walk, "size 9 5;wall 1 1;wall 3 2;walker 2 2 east;pace 0 3;late 0 2;haste 0 7;"
+            + "hand 0 left;walker 2 3 east;friends 0 1;");
+        CHECKS.due("walls at the same places", Checks.passage(walk, "size 9 5;wall 1 1;walker 3 2 west;"), 1);
+        CHECKS.due("walls of 0", walk.about(0, 3), 2);
+        CHECKS.due("walls of 1", walk.about(1, 3), 1);
+        CHECKS.due("WALKERS of 1", walk.about(1, 2), 1);
+        int[] due = {3, 2, 0, 1, 0, 0, 0, -1};
+        for (int what = 0; what < due.length; what++) {
+            CHECKS.due("walker of 1, " + what, walk.walker(1, 0, what), due[what]);
+        }
+        Checks.passage(walk, "size 9 5;wall 1 3;wall 1 1;wall 1 1;");
+        Checks.tell(walk, "size 9 5;");
+        CHECKS.due("in place of 5", walk.passage(5), -2);
+        CHECKS.due("no FAULT", walk.fault(0), 0);
+        CHECKS.due("no place", walk.fault(1), -1);
+        Checks.passage(walk, "size 9 5;wall 1 1;wall 4 4;");
+        CHECKS.due("walls behind a FAULT", walk.about(2, 3), 2);
+        Checks.law(walk, "if ahead<3:go;if");
+        CHECKS.due("place", walk.fault(1), 16);
+        CHECKS.due("law in place of 2", walk.law(2), -2);
+        CHECKS.due("no place", walk.fault(1), -1);
+        CHECKS.due("a LAW behind a FAULT", Checks.law(walk, "wait;"), 0);
+        CHECKS.due("its RULES", walk.rules(0), 1);
     }
 
     private static void due(PavementWalk walk, int w, int... due) {

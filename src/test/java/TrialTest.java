@@ -8,6 +8,7 @@ final class TrialTest {
         twoByLots();
         twoAtLength();
         twoWrongly();
+        trialsTakeTheirOwn();
         fullest();
         pillar();
         cost();
@@ -84,6 +85,27 @@ final class TrialTest {
         CHECKS.due("what 18", walk.two(0, 0, 2, 18), 0);
     }
 
+    /** Each trial takes the PASSAGE and the LAW that are asked for, whatever was told last. */
+    private static void trialsTakeTheirOwn() {
+        PavementWalk walk = Checks.told("size 3 2;walker 0 0 east;walker 2 1 west;", "go;");
+        Checks.law(walk, "wait;");
+        Checks.passage(walk, "size 9 2;walker 0 0 east;wall 8 0;walker 8 1 west;");
+        CHECKS.due("two of 0", walk.two(0, 0, 3, 0), 64);
+        CHECKS.due("two of 0 by 1", walk.two(0, 1, 3, 0), 0);
+        CHECKS.due("two of 1", walk.two(1, 0, 3, 0), 0);
+        CHECKS.due("two of 2", walk.two(2, 0, 3, 10), NONE);
+        CHECKS.due("two by 2", walk.two(0, 2, 3, 10), NONE);
+        CHECKS.due("fullest of 0", walk.fullest(0, 0, 1, 3), NONE);
+        CHECKS.due("fullest of 1", walk.fullest(1, 0, 1, 3), 1);
+        CHECKS.due("opened of 1", walk.opened(1, 0, 1, 30), 800);
+        CHECKS.due("opened of 0", walk.opened(0, 0, 1, 30), NONE);
+        CHECKS.due("flow of 0", walk.flow(0, 0, 1, 30), 2);
+        CHECKS.due("flow of 0 by 1", walk.flow(0, 1, 1, 30), 0);
+        CHECKS.due("slack of 0", walk.slack(0, 0, 1, 30, 0), 3);
+        CHECKS.due("slack of 1", walk.slack(1, 0, 1, 30, 0), NONE);
+        CHECKS.due("better of 0", walk.better(0, 1, 30), 0);
+    }
+
     private static void fullest() {
         PavementWalk walk = Checks.told("size 6 1;walker 5 0 east;walker 3 0 east;walker 0 0 east;"
             + "walker 1 0 west;", "go;");
@@ -149,6 +171,24 @@ final class TrialTest {
         CHECKS.due("no WALKER", walk.cost(0, 0, 1, 9, -1), -100000);
         CHECKS.due("no PASSAGE", walk.cost(1, 0, 1, 9, 0), -100000);
         CHECKS.due("no LAW", walk.cost(0, 1, 1, 9, 0), -100000);
+        // 0 waits for 2, his friend still when 1 is away.
+        PavementWalk renamed = Checks.told("size 9 2;walker 0 0 east;walker 4 1 west;walker 8 0 east;"
+            + "walker 4 0 west;haste 3 1;friends 0 2;pace 2 4;wall 3 1;", "if parted:wait;if blocked:left;go;");
+        PavementWalk without = Checks.running("size 9 2;walker 0 0 east;walker 8 0 east;walker 4 0 west;"
+            + "haste 2 1;friends 0 1;pace 1 4;wall 3 1;", "if parted:wait;if blocked:left;go;", 1);
+        PavementWalk whole = Checks.running("size 9 2;walker 0 0 east;walker 4 1 west;walker 8 0 east;"
+            + "walker 4 0 west;haste 3 1;friends 0 2;pace 2 4;wall 3 1;",
+            "if parted:wait;if blocked:left;go;", 1);
+        without.go(30);
+        whole.go(30);
+        int sum = 0;
+        for (int w = 0; w < 3; w++) {
+            int t = without.ran(w, 2);
+            int u = whole.ran(w == 0 ? 0 : w + 1, 2);
+            sum += (u < 0 ? 30 : u + 1) - (t < 0 ? 30 : t + 1);
+        }
+        CHECKS.due("those behind him move up", renamed.cost(0, 0, 1, 30, 1), sum);
+        CHECKS.due("friends wait", without.ran(0, 2) == NONE, true);
         PavementWalk apart = Checks.told("size 9 2;walker 0 0 east;walker 8 0 east;friends 0 1;"
             + "walker 4 1 west;", "if parted:wait;go;");
         // 1 waits for 0, and 0 for 1, for ever; without 1 the other one goes: 9 TENTHS, 2 needs 5.
