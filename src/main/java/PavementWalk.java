@@ -673,7 +673,9 @@ public final class PavementWalk {
             width = Math.max(0, Math.min(newWidth, WIDTHS));
             wallCount = 0;
             walkers = 0;
-            Arrays.fill(walls, false);
+            for (int at = 0; at < LENGTHS * WIDTHS; at++) {
+                walls[at] = false;
+            }
         }
 
         void copyFrom(Passage other) {
@@ -1691,7 +1693,9 @@ public final class PavementWalk {
         private void spread(int depth, int left) {
             Walk walk = walks[depth];
             int at = depth * KINDS;
-            Arrays.fill(parts, at, at + KINDS, 0);
+            for (int kind = 0; kind < KINDS; kind++) {
+                parts[at + kind] = 0;
+            }
             if (left <= 0 || depth >= TENTHS || walk.arrived == 2) {
                 parts[at] = walk.arrived == 2 ? 1 << 2 * left : 0;
                 parts[at + 1] = 1 << 2 * left;

@@ -92,6 +92,14 @@ final class ImageTest {
         CHECKS.due("its end", walk.end(10), -1);
         CHECKS.due("its text", walk.passage(-1), 0);
         CHECKS.due("LENGTH", walk.about(0, 0), 7);
+        Checks.tell(walk, "size 5 3;");
+        walk.image(1);
+        walk.end(0);
+        Checks.tell(walk, "size 6 4;");
+        CHECKS.due("again", walk.again(1), true);
+        CHECKS.due("the tape's text", walk.passage(-1), 1);
+        CHECKS.due("LENGTH of the image's text", walk.about(1, 0), 5);
+        CHECKS.due("WIDTH of the image's text", walk.about(1, 1), 3);
     }
 
     private static void runsGoOnFromImages() {

@@ -243,6 +243,12 @@ final class TextTest {
         bad("size 0003 3;", 1, 5);
         bad("size 3 3;wall 0 12345678901234567890;", 1, 16);
         bad("size -3 3;", 1, 5);
+        bad("size x 3;", 1, 5);
+        bad("size 3 x;", 1, 7);
+        bad("size ; 3;", 1, 5);
+        bad("12 3 3;", 1, 0);
+        bad("size 3 3;12;", 1, 9);
+        bad("size 3 3;wall x 1;", 1, 14);
     }
 
     private static void passageNumberFaults() {
@@ -345,6 +351,9 @@ final class TextTest {
         badLaw("if and blocked:go;", 1, 3);
         badLaw("go;3;", 1, 3);
         badLaw("go;size 3 3;", 1, 3);
+        badLaw("if 3:go;", 1, 3);
+        badLaw("if ahead 3:go;", 1, 9);
+        badLaw("if ahead<x:go;", 1, 9);
     }
 
     private static void tooManyInLaw() {
