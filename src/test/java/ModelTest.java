@@ -24,8 +24,8 @@ final class ModelTest {
             }
             twoByAllLots(place, Model.randomLaw(random), random.nextInt(5));
         }
-        for (int k = 0; k < 60; k++) {
-            danceByAllLots(random, k < 4 ? 8 : 5 + random.nextInt(2));
+        for (int k = 0; k < 160; k++) {
+            danceByAllLots(random, k < 6 ? 8 : 5 + random.nextInt(2));
         }
         CHECKS.finish("ModelTest");
     }
@@ -232,23 +232,28 @@ final class ModelTest {
     /** Two face to face with many lots, which meet in the same SQUARES by many ways. */
     private static void danceByAllLots(Random random, int n) {
         Model.Place place = new Model.Place();
-        place.length = 4 + random.nextInt(4);
+        boolean atTheEnd = random.nextInt(3) == 0;
+        place.length = atTheEnd ? 16 : 4 + random.nextInt(4);
         place.width = 2 + random.nextInt(3);
         place.wall = new boolean[place.length][place.width];
         StringBuilder text = new StringBuilder("size " + place.length + " " + place.width + ";");
         for (int w = 0; w < 2; w++) {
             Model.Walker walker = new Model.Walker();
-            walker.x = w == 0 ? random.nextInt(2) : place.length - 1 - random.nextInt(2);
+            walker.x = w == 0 ? random.nextInt(2) + (atTheEnd ? 11 : 0) : place.length - 1 - random.nextInt(2);
             walker.y = random.nextInt(2);
             walker.way = w == 0 ? 1 : -1;
-            walker.late = random.nextInt(4) * random.nextInt(2);
+            // What was three TENTHS ago matters by LATE 3 alone.
+            walker.late = random.nextBoolean() ? 3 : random.nextInt(4) * random.nextInt(2);
+            walker.pace = 1 + random.nextInt(4) / 3;
             place.walkers.add(walker);
             text.append("walker " + walker.x + " " + walker.y + (w == 0 ? " east;" : " west;"));
-            text.append("late " + w + " " + walker.late + ";");
+            text.append("late " + w + " " + walker.late + ";pace " + w + " " + walker.pace + ";");
         }
         place.text = text.toString();
         String[] laws = {"lot", "if facing:lot;go", "if waited=2:go;if waited=0:lot;hand", "if near<3:lot;go",
-            "if facing and waited<3:lot;go", "if waited>0:go;lot", "if near<2:go;if waited<2:hand;wait"};
+            "if facing and waited<3:lot;go", "if waited>0:go;lot", "if near<2:go;if waited<2:hand;wait",
+            "if right=0:lot;if crowd>0:hand;go", "if near=1:lot;if near=2:hand;go", "if ahead=1:lot;if ahead<3:hand;go",
+            "if crowd>0:lot;if near=3:hand;if near=4:left;go", "if waited=4:lot;if waited<3:hand;go"};
         twoByAllLots(place, Model.law(laws[random.nextInt(laws.length)] + ";"), n);
     }
 
