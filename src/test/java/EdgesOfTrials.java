@@ -96,6 +96,10 @@ final class EdgesOfTrials {
         edges.due("in both", paced.two(0, 0, 8, 12), 65536 / 4 / 2 / 4);
         PavementWalk free = Checks.told("size 9 6;walker 0 0 east;walker 8 5 west;", "if right=0:lot;go;");
         edges.due("lots of one who BUMPS halve, too", free.two(0, 0, 1, 10), 4);
+        // By his one lot 1 stays at 3, 4 for ever, or is out in the next TENTH; 0 is out in TENTH 2.
+        PavementWalk half = Checks.told("size 4 6;walker 2 0 west;walker 3 3 east;",
+            "if left=3:lot;if left=4:wait;go;");
+        edges.dueRow("one stays or is out, n", n -> half.two(0, 0, n, 0), 0, 0, 0, 32, 128, 512, 2048, 8192, 32768);
     }
 
     /** What one question found is no other one's answer. */
