@@ -1393,7 +1393,8 @@ public final class PavementWalk {
 
         /** Where in col and row he sees the first WALKER; the others follow. */
         private int pastOf(int w) {
-            return Math.max(0, Math.min(ground.late[w], LAGS - 1)) * WALKERS;
+            int late = ground.late[w];
+            return late > 0 && late < LAGS ? late * WALKERS : 0;
         }
 
         /** How many SQUARES that way are free as he sees it; a WALKER who ends them is met. */
